@@ -432,9 +432,9 @@ public final class NumberFieldFactors {
       int others = b.degree();
       wide.clear();
       for (int i = 0; i <= most; i++) {
-        int factor = a.get(i);
-        for (int j = 0; factor != 0 && j <= others; j++) {
-          wide.set(i + j, extension.plus(wide.get(i + j), extension.times(factor, b.get(j))));
+        int one = a.get(i);
+        for (int j = 0; one != 0 && j <= others; j++) {
+          wide.set(i + j, extension.plus(wide.get(i + j), extension.times(one, b.get(j))));
         }
       }
       a.copy(wide);
@@ -547,7 +547,7 @@ public final class NumberFieldFactors {
           return s;
         }
       }
-      // Never: each of the 75 pairs of roots and different mates of t spoils one s at most.
+      // Never: two roots with two different mates of t spoil one s at most, and there are 75 such choices.
       return 0;
     }
   }
@@ -555,7 +555,7 @@ public final class NumberFieldFactors {
   /** The factors of a polynomial, found when they are asked for and kept until it changes. */
   private static final class Splitter {
     private final Row[] parts = new Row[MOST_POWER];
-    private final int[] often = new int[MOST_POWER];
+    private final int[] counts = new int[MOST_POWER];
     private int count = 0;
     private boolean found = false;
     private final Row root = new Row();
@@ -578,7 +578,7 @@ public final class NumberFieldFactors {
     }
 
     int timesOf(int k) {
-      return k >= 0 && k < often.length ? often[k] : 0;
+      return k >= 0 && k < counts.length ? counts[k] : 0;
     }
 
     /** The least number that the degrees of all factors go into. */
@@ -693,15 +693,15 @@ public final class NumberFieldFactors {
     }
 
     private void countTimes(Ring ring, Row f) {
-      for (int i = 0; i < count && i < often.length; i++) {
-        often[i] = 0;
+      for (int i = 0; i < count && i < counts.length; i++) {
+        counts[i] = 0;
         rest.copy(f);
         for (int n = 0; n <= MOST_POWER; n++) {
           ring.divide(rest, part(i));
           if (rest.degree() >= 0) {
             break;
           }
-          often[i]++;
+          counts[i]++;
           rest.copy(ring.quotient);
         }
       }
