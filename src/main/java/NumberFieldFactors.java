@@ -490,7 +490,7 @@ public final class NumberFieldFactors {
       into.copy(left);
     }
 
-    /** What a and its derivative share. No power of a row is a multiple of 101, so squares alone are shared. */
+    /** What a and its derivative share: squares alone, as no power above 0 of a row is a multiple of 101. */
     void findSquares(Row a, Row into) {
       derived.clear();
       for (int i = a.degree(); i > 0; i--) {
@@ -601,7 +601,8 @@ public final class NumberFieldFactors {
         return;
       }
       count = 0;
-      findRoot(ring, f);
+      ring.findSquares(f, shared);
+      keepRoot(ring, f);
       rest.copy(root);
       for (int degree = 1; degree <= MOST_POWER && rest.degree() >= 2 * degree; degree++) {
         int first = count;
@@ -617,8 +618,8 @@ public final class NumberFieldFactors {
       found = true;
     }
 
-    private void findRoot(Ring ring, Row f) {
-      ring.findSquares(f, shared);
+    /** What f shares with its derivative has each factor once less than f has it. */
+    private void keepRoot(Ring ring, Row f) {
       root.copy(f);
       ring.divide(root, shared);
       root.copy(ring.quotient);
@@ -626,8 +627,10 @@ public final class NumberFieldFactors {
     }
 
     private void add(Row a) {
-      part(count).copy(a);
-      count++;
+      if (count < parts.length) {
+        parts[count].copy(a);
+        count++;
+      }
     }
 
     private static long sizeToThe(Ring ring, int degree) {
@@ -635,7 +638,10 @@ public final class NumberFieldFactors {
       return degree == 1 ? size : size * size;
     }
 
-    /** The product of all factors of this degree goes from rest to the parts: x to the (size to the degree), less x, has them all. */
+    /**
+     * The product of all factors of this degree goes from rest to the parts. x to the (size to the degree), less x, has
+     * them all, and of higher degrees none.
+     */
     private void collect(Ring ring, int degree) {
       ring.raiseLinear(0, sizeToThe(ring, degree), rest, power);
       power.set(1, ring.extension.minus(power.get(1), 1));

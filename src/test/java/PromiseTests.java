@@ -343,7 +343,12 @@ public final class PromiseTests {
     same("x", x.shift(), 1);
     putAll(x, 99, 0, 1, 0, 0, 0);
     same("x x - 2: 0 and 1 leave a square", x.shift(), 2);
-    // (x - t)(x + t)(x - 2 t)(x + 2 t) = x x x x - 10 x x + 16; s spoils if two of s + 1, s - 1, .. are alike but for the sign.
+    putAll(x, 0, 101, 1, 0, 0, 0);
+    same("roots 0 and - t, moved by s t: 0 and 1 leave 0 as a root twice", x.shift(), 2);
+    putAll(x, 0, 10100, 1, 0, 0, 0);
+    same("roots 0 and t", x.shift(), 1);
+    // (x - t)(x + t)(x - 2 t)(x + 2 t) = x x x x - 10 x x + 16: s won't do if two of s + 1, s - 1, s + 2, s - 2 are
+    // alike but for the sign.
     putAll(x, 16, 0, 91, 0, 1, 0);
     same("t, - t, 2 t, - 2 t", x.shift(), 3);
     putAll(x, 0, 16, 0, 91, 0, 1);
@@ -429,10 +434,9 @@ public final class PromiseTests {
         high = c;
       }
     }
-    int[] product = {
-      x.reckon(2, low, high), x.reckon(0, x.reckon(2, low, 4), x.reckon(2, high, 5)), x.reckon(0, 20, x.reckon(0, low, high)), 9, 1, 0
-    };
-    putAll(x, product);
+    int at1 = x.reckon(0, x.reckon(2, low, 4), x.reckon(2, high, 5));
+    int at2 = x.reckon(0, 20, x.reckon(0, low, high));
+    putAll(x, x.reckon(2, low, high), at1, at2, 9, 1, 0);
     same("two quadratics", x.factors(), 2);
     row("4 before 5, though its element at 0 is greater", factorOf(x, 0), high, 4, 1, 0, 0, 0);
     row("5 behind it", factorOf(x, 1), low, 5, 1, 0, 0, 0);

@@ -3,8 +3,8 @@ import java.util.Random;
 /** Runs of 512 calls with fitting and unfitting arguments: each throws just what the document says, and changes nothing then. */
 public final class WildCalls {
   private static final int[] EDGES = {
-    Integer.MIN_VALUE, Integer.MIN_VALUE + 1, -101, -2, -1, 0, 1, 2, 3, 4, 5, 6, 7, 15, 16, 100, 101, 102, 10200, 10201, 10202, 1030300, 1030301,
-    Integer.MAX_VALUE
+    Integer.MIN_VALUE, Integer.MIN_VALUE + 1, -101, -2, -1, 0, 1, 2, 3, 4, 5, 6, 7, 15, 16, 100, 101, 102, 10200, 10201,
+    10202, 1030300, 1030301, Integer.MAX_VALUE
   };
   private static final long[] LONGS = {Long.MIN_VALUE, -103, -2, -1, 0, 1, 2, 3, 100, 101, Long.MAX_VALUE};
   private static final int[] SIZES = {101, 10201, 1030301};
@@ -56,6 +56,10 @@ public final class WildCalls {
   private int argument() {
     int kind = random.nextInt(4);
     return kind == 0 ? EDGES[random.nextInt(EDGES.length)] : kind == 1 ? random.nextInt(size()) : random.nextInt(6);
+  }
+
+  private long anyLong() {
+    return LONGS[random.nextInt(LONGS.length)];
   }
 
   private int size() {
@@ -110,7 +114,7 @@ public final class WildCalls {
   private String run(int method, int a, int b, int c) {
     try {
       switch (method) {
-        case 0 -> x.field(a, LONGS[random.nextInt(LONGS.length)], LONGS[random.nextInt(LONGS.length)], LONGS[random.nextInt(LONGS.length)]);
+        case 0 -> x.field(a, anyLong(), anyLong(), anyLong());
         case 1 -> x.modulus(a);
         case 2 -> x.put(a, b);
         case 3 -> x.at(a);
