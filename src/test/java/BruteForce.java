@@ -1,7 +1,10 @@
 import java.util.Arrays;
 import java.util.Random;
 
-/** Answers against plain searches: every element is tried as a root, every element is squared, every norm multiplied out. */
+/**
+ * Answers against plain searches: every element is tried as a root, every element is squared, every norm multiplied out;
+ * how many factors there are is told by a rank, which is not how the class finds them.
+ */
 public final class BruteForce {
   private static final int[][] MODULI = {{1, 0, 0, 0}, {1, 37, 0, 0}, {2, 99, 0, 0}, {2, 7, 5, 0}, {3, 1, 1, 0}, {3, 94, 77, 58}};
 
@@ -26,7 +29,7 @@ public final class BruteForce {
       BruteForce one = new BruteForce(given);
       one.elements();
       one.squares();
-      one.polynomials(given[0] == 1 ? 300 : given[0] == 2 ? 120 : 4);
+      one.polynomials(300, given[0] == 1 ? 300 : given[0] == 2 ? 120 : 4);
     }
     System.out.println("BruteForce: " + checks + " checks, " + wrong + " wrong");
     if (wrong != 0) {
@@ -69,7 +72,8 @@ public final class BruteForce {
     }
   }
 
-  private void polynomials(int many) {
+  /** Of so many; in the first of them roots are searched for too, which is dear where there are many elements. */
+  private void polynomials(int many, int searched) {
     for (int i = 0; i < many; i++) {
       int[] f = i % 3 == 0 ? anyRow() : productOfFactors(i % 3 == 1);
       for (int p = 0; p < 6; p++) {
@@ -79,8 +83,10 @@ public final class BruteForce {
       due("value", x.value(a), valueOf(f, a));
       checkNorm(f);
       if (degree(f) >= 0) {
-        checkFactors(f);
-        checkShift();
+        checkFactors(f, i < searched);
+        int[] root = rootOf();
+        due("how many factors", x.factors(), countByRank(root));
+        checkShift(root);
       }
       checkMove(f, a);
     }
@@ -134,22 +140,17 @@ public final class BruteForce {
     return norm;
   }
 
-  private void checkFactors(int[] f) {
+  private void checkFactors(int[] f, boolean searched) {
     int count = x.factors();
     int[] all = {f[degree(f)]};
-    int place = 0;
-    for (int root = 0; root < size; root++) {
-      // In the order of the elements at power 0, which are what the roots are less than 0 by.
-      if (valueOf(f, sum(0, root, 100)) == 0) {
-        due("a linear factor", place < count && degree(factorOf(place)) == 1 ? factorOf(place)[0] : -1, root);
-        place++;
-      }
+    if (searched) {
+      checkRoots(f, count);
     }
     for (int i = 0; i < count; i++) {
       int[] factor = factorOf(i);
       int degree = degree(factor);
+      due("a factor's degree", degree > 0 ? 1 : 0, 1);
       due("a factor's head", factor[degree], 1);
-      due("linear factors first", degree > 1 ? 1 : 0, i >= place ? 1 : 0);
       due("the order", i == 0 || isBefore(factorOf(i - 1), factor) ? 1 : 0, 1);
       due("no quadratic factor", k == 1 && degree > 3 && hasQuadratic(factor) ? 1 : 0, 0);
       for (int n = x.often(i); n > 0; n--) {
@@ -161,6 +162,20 @@ public final class BruteForce {
       due("all factors", all[p], f[p]);
     }
     due("splitting", x.splitting(), leastCommon(count));
+  }
+
+  private void checkRoots(int[] f, int count) {
+    int place = 0;
+    for (int root = 0; root < size; root++) {
+      // In the order of the elements at power 0, which are what the roots are less than 0 by.
+      if (valueOf(f, sum(0, root, 100)) == 0) {
+        due("a linear factor", place < count && degree(factorOf(place)) == 1 ? factorOf(place)[0] : -1, root);
+        place++;
+      }
+    }
+    for (int i = 0; i < count; i++) {
+      due("linear factors first", degree(factorOf(i)) > 1 ? 1 : 0, i >= place ? 1 : 0);
+    }
   }
 
   private int leastCommon(int count) {
@@ -186,17 +201,91 @@ public final class BruteForce {
     return false;
   }
 
-  private void checkShift() {
+  private int[] rootOf() {
     int[] root = {1};
     for (int i = 0; i < x.factors(); i++) {
       root = times(root, Arrays.copyOf(factorOf(i), degree(factorOf(i)) + 1));
     }
+    return root;
+  }
+
+  /**
+   * Without squares there are as many factors as the polynomials of lower degree that their power of size leaves as they
+   * are have dimensions.
+   */
+  private int countByRank(int[] root) {
+    int degree = degree(root);
+    int[] raised = powerOfX(size, root);
+    int[][] rows = new int[degree][];
+    int[] power = {1};
+    for (int i = 0; i < degree; i++) {
+      rows[i] = Arrays.copyOf(power, degree);
+      rows[i][i] = sum(rows[i][i], 1, 100);
+      power = left(times(power, raised), root);
+    }
+    return degree - rank(rows, degree);
+  }
+
+  private void checkShift(int[] root) {
     int t = k == 1 ? (101 - modulus[0]) % 101 : 101;
     int s = 0;
     while (hasSquare(normOf(moved(root, sum(0, product(s, t), 100))))) {
       s++;
     }
     due("shift", x.shift(), s);
+  }
+
+  private int[] powerOfX(int exponent, int[] root) {
+    int[] power = {1};
+    for (int bit = 30; bit >= 0; bit--) {
+      power = left(times(power, power), root);
+      if ((exponent >> bit & 1) == 1) {
+        power = left(times(power, new int[] {0, 1}), root);
+      }
+    }
+    return power;
+  }
+
+  /** What is left of f by g, which has 1 at its highest power. */
+  private int[] left(int[] f, int[] g) {
+    int degree = degree(g);
+    int[] left = f.clone();
+    for (int i = left.length - 1; i >= degree; i--) {
+      int lead = left[i];
+      for (int j = 0; j <= degree; j++) {
+        left[i - degree + j] = sum(left[i - degree + j], product(lead, g[j]), 100);
+      }
+    }
+    return Arrays.copyOf(left, Math.min(left.length, Math.max(degree, 1)));
+  }
+
+  private int rank(int[][] rows, int columns) {
+    int rank = 0;
+    for (int column = 0; column < columns; column++) {
+      int pivot = rank;
+      while (pivot < rows.length && rows[pivot][column] == 0) {
+        pivot++;
+      }
+      if (pivot < rows.length) {
+        int[] chosen = rows[pivot];
+        rows[pivot] = rows[rank];
+        rows[rank] = chosen;
+        for (int i = rank + 1; i < rows.length; i++) {
+          clear(rows[i], chosen, column);
+        }
+        rank++;
+      }
+    }
+    return rank;
+  }
+
+  /** The row times the other's head, less the other times the row's: so nothing need be divided. */
+  private void clear(int[] row, int[] other, int column) {
+    int mine = row[column];
+    int others = other[column];
+    for (int j = 0; j < row.length; j++) {
+      row[j] = sum(product(row[j], others), product(other[j], mine), 100);
+    }
   }
 
   /** A square in it is one in its derivative too: the rest of one by the other, again and again, tells. */
